@@ -204,7 +204,7 @@ public final class ModelTest {
     }
 
     private static int number() {
-        int[] edges = {Integer.MIN_VALUE, Integer.MAX_VALUE, -100, -1, 0, 1, 2, 5, 6, 7, 12};
+        int[] edges = {Integer.MIN_VALUE, Integer.MAX_VALUE, -100, -1, 0, 1, 2, 5, 6, 7, 10, 12};
         return edges[next(edges.length)];
     }
 

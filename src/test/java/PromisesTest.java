@@ -318,10 +318,14 @@ public final class PromisesTest {
         due("a function taken to ANY guards its argument", castAlong(2, 0, 3, 3, 4).call(0, 1), -3);
         due("a function taken from ANY guards its result", castAlong(1, 0, 3, 8, 4).call(0, 1), 4);
         due("the outermost argument cast goes first",
+            castAlong(1, 6, 1, 3, 2, 6, 3, 3, 4).call(1, 1), -4);
+        due("the only argument cast that fails, the outermost",
             castAlong(1, 6, 1, 3, 2, 9, 3, 3, 4).call(0, 1), -4);
         due("a later argument cast after one that holds",
             castAlong(1, 6, 1, 3, 2, 9, 3, 3, 4).call(1, 1), -2);
         due("the innermost result cast goes first",
+            castAlong(1, 4, 1, 3, 2, 4, 3, 3, 4).call(1, 1), 1);
+        due("the only result cast that fails, the innermost",
             castAlong(1, 4, 1, 3, 2, 5, 3, 3, 4).call(1, 1), 1);
         due("a later result cast after one that holds",
             castAlong(1, 4, 1, 3, 2, 5, 3, 3, 4).call(0, 1), 3);
@@ -378,6 +382,13 @@ public final class PromisesTest {
         x.cast(functionType(ANY, ANY), 1);
         x.call(1, 1);
         dueResult("after a first call that failed", x, BAD, 0);
+        x.set(2, 1);
+        x.cast(functionType(ANY, NUMBER), 1);
+        x.call(1, 1);
+        dueResult("after a first call whose result failed", x, BAD, 0);
+        x.call(0, 41);
+        x.call(1, 1);
+        dueResult("after a later call whose result failed", x, 0, 41);
     }
 
     private static void promise10Agree() {
